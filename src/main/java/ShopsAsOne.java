@@ -309,13 +309,12 @@ public final class ShopsAsOne {
         if (areTooMany(a, b)) {
             return STATE;
         }
-        return joining.restsBefore(now) ? fewestSold(a, b, c, t) : NONE;
-    }
-
-    /** The empty set counts, too: then nothing has to be sold. */
-    private int fewestSold(int a, int b, int c, int t) {
+        if (!joining.restsBefore(now)) {
+            return NONE;
+        }
         int theirs = now.setOf(a) | now.setOf(b);
         int room = SHOPS_OF_ONE - now.shopsOf(c);
+        // the empty set counts, too: then nothing has to be sold
         for (int size = 0; size <= room; size++) {
             for (int set = 0; set <= theirs; set++) {
                 boolean fits = Integer.bitCount(set) == size && (set & ~theirs) == 0;
@@ -725,9 +724,10 @@ public final class ShopsAsOne {
             int chosen = NONE;
             int least = street.worth[sort] + 1;
             for (int shop = 0; shop < street.shops; shop++) {
-                if (shop != shut && isOpen(shop) && whatIs(sort, shop) < least) {
+                int is = whatIs(sort, shop);
+                if (is < least && shop != shut && isOpen(shop)) {
                     chosen = shop;
-                    least = whatIs(sort, shop);
+                    least = is;
                 }
             }
             return chosen;
@@ -884,9 +884,9 @@ public final class ShopsAsOne {
                 choice[0][sort] = NONE;
                 earns[0][sort] = 0;
                 for (int shop = 0; shop < street.shops; shop++) {
-                    boolean isOther = standing.whose[shop] != owner && standing.isOpen(shop);
-                    if (isOther && standing.whatIs(sort, shop) < least[0][sort]) {
-                        least[0][sort] = standing.whatIs(sort, shop);
+                    int is = standing.whatIs(sort, shop);
+                    if (is < least[0][sort] && standing.whose[shop] != owner && standing.isOpen(shop)) {
+                        least[0][sort] = is;
                         choice[0][sort] = shop;
                     }
                 }
@@ -1176,19 +1176,28 @@ public final class ShopsAsOne {
         }
 
         void weigh(Standing now, int a, int b) {
+            countSold(now);
             int everybody = 0;
-            sellers = 0;
+            sellers = sold[a] > 0 && sold[b] > 0 ? -1 : 0;
             for (int owner = 0; owner < street.owners; owner++) {
-                sold[owner] = now.soldBy(now.setOf(owner));
                 everybody += sold[owner];
                 sellers += sold[owner] > 0 ? 1 : 0;
-            }
-            if (sold[a] > 0 && sold[b] > 0) {
-                sellers--;
             }
             share = hundredths(sold[a] + sold[b], everybody);
             product = 2 * hundredths(sold[a], everybody) * hundredths(sold[b], everybody);
             distance = leastDistance(now, a, b);
+        }
+
+        private void countSold(Standing now) {
+            for (int owner = 0; owner < OWNERS; owner++) {
+                sold[owner] = 0;
+            }
+            for (int sort = 0; sort < street.sorts; sort++) {
+                int shop = now.choice(sort, NONE);
+                if (shop != NONE) {
+                    sold[now.whose[shop]] += street.many[sort];
+                }
+            }
         }
 
         private static int hundredths(int part, int all) {

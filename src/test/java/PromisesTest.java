@@ -433,6 +433,26 @@ public final class PromisesTest {
         due("and has no gain then", y.gain(0), 0);
     }
 
+    private static void leastGain() {
+        ShopsAsOne x = new ShopsAsOne();
+        x.owner(0, 0);
+        x.owner(0, 0);
+        x.shop(1, 0, 0, 2);
+        x.sort(0, 1, 5, 3, NONE, 0);
+        promise = 16;
+        due("3 less 2", x.gain(1), 1);
+        due("none without shops", x.gain(0), 0);
+        promise = 15;
+        due("1 is above 0", x.otherwise(), 1);
+        promise = 29;
+        test(x, "s=100&o=1");
+        due("one person is all", x.bars(0, 0, 1), 1);
+        x.shop(0, 9, 0, 0);
+        x.sort(9, 1, 5, 0, NONE, 0);
+        test(x, "s=100&o=1&r=5000");
+        due("one person each: one seller", x.bars(1, 0, 1), 1);
+    }
+
     private static void markets() {
         promise = 17;
         ShopsAsOne x = new ShopsAsOne();
@@ -635,6 +655,33 @@ public final class PromisesTest {
         due("the second is four", x.twice(0, 1, 2, 3, 0), STATE);
         due("the first is four", x.twice(2, 3, 0, 1, 1), STATE);
         due("four, outside", x.twice(2, 3, 0, 1, 3), OUTSIDE);
+    }
+
+    /** Something of the four that twice() looks at does not rest: then nothing of it is told. */
+    private static void twiceWithoutRest() {
+        promise = 24;
+        int[][][] first = {{{0, 0}, {2, 0}, {2, 0}, {0, 0}}, {{3, 7, 2, 1}, {1, 5, 1, 0}},
+            {{0, 7, 2, 16, 0, 3}, {6, 8, 2, 4, 1, 5}}};
+        int[][][] second = {{{2, 0}, {1, 0}, {3, 1}, {2, 0}}, {{3, 9, 0, 4}, {1, 8, 0, 7}},
+            {{7, 21, 3, 7, 1, 1}, {8, 8, 3, 6, 0, 1}}};
+        int[][][] both = {{{0, 0}, {2, 0}, {1, 0}, {2, 0}}, {{3, 5, 2, 2}, {1, 8, 1, 3}},
+            {{6, 3, 2, 4, 0, 4}, {6, 8, 2, 6, 1, 3}}};
+        withoutRest("the first", first, true, false, false);
+        withoutRest("the second", second, false, true, false);
+        withoutRest("both", both, false, false, true);
+    }
+
+    private static void withoutRest(String which, int[][][] street, boolean first, boolean second, boolean both) {
+        ShopsAsOne x = new ShopsAsOne();
+        build(x, street[0], street[1], street[2]);
+        due("the first alone", x.harm(0, 1, 0) == NONE ? 1 : 0, first ? 1 : 0);
+        due("the second alone", x.harm(2, 3, 0) == NONE ? 1 : 0, second ? 1 : 0);
+        for (int what = 0; what <= 2; what++) {
+            due(which + " does not rest, " + what, x.twice(0, 1, 2, 3, what), NONE);
+        }
+        x.merge(0, 1);
+        x.merge(2, 3);
+        due("both together", x.rest() == STATE ? 1 : 0, both ? 1 : 0);
     }
 
     private static void letters() {
@@ -910,12 +957,14 @@ public final class PromisesTest {
         turns();
         rests();
         gains();
+        leastGain();
         markets();
         shutShops();
         merges();
         harms();
         restless();
         twice();
+        twiceWithoutRest();
         letters();
         faults();
         bars();
