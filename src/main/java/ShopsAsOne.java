@@ -1234,7 +1234,7 @@ public final class ShopsAsOne {
                     turned[depth] = !turned[depth];
                     break;
                 case '|':
-                    any[depth] |= all[depth];
+                    any[depth] = any[depth] || all[depth];
                     all[depth] = true;
                     break;
                 case '(':
@@ -1274,7 +1274,7 @@ public final class ShopsAsOne {
         }
 
         private void takeFactor(boolean holds) {
-            all[depth] &= holds != turned[depth];
+            all[depth] = all[depth] && holds != turned[depth];
             turned[depth] = false;
         }
 

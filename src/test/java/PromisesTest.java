@@ -1,14 +1,7 @@
 /** Each promise by runs that were reckoned by hand: ordinary inputs, edges, wrong inputs. */
-public final class PromisesTest {
-    private static final int NONE = -1, UNKNOWN = -101, OUTSIDE = -102, STATE = -103, FULL = -104;
-    private static int wrong;
-    private static int promise;
-
-    private static void due(String what, long got, long want) {
-        if (got != want) {
-            wrong++;
-            System.out.println("promise " + promise + ": " + what + " is " + got + ", due is " + want);
-        }
+public final class PromisesTest extends Edges {
+    private static void promise(int number) {
+        edge(number, "by hand");
     }
 
     /** A refused call answers so, and changes nothing that is told. */
@@ -17,56 +10,8 @@ public final class PromisesTest {
         due("digest behind " + what, x.digest(), before);
     }
 
-    private static long packed(String letters) {
-        long w = 0;
-        for (int i = letters.length() - 1; i >= 0; i--) {
-            w = w << 8 | letters.charAt(i);
-        }
-        return w;
-    }
-
-    private static int write(ShopsAsOne x, String text) {
-        int length = x.count(4);
-        for (int i = 0; i < text.length(); i += 8) {
-            length = x.letters(packed(text.substring(i, Math.min(text.length(), i + 8))));
-        }
-        return length;
-    }
-
-    private static int test(ShopsAsOne x, String text) {
-        x.blank();
-        write(x, text);
-        return x.test();
-    }
-
-    /** Two ONE side by side at place 0 at no cost, price 5; ten people there to whom it is worth 9. */
-    private static ShopsAsOne rivals() {
-        ShopsAsOne x = new ShopsAsOne();
-        x.owner(0, 0);
-        x.owner(0, 0);
-        x.shop(0, 0, 0, 5);
-        x.shop(1, 0, 0, 5);
-        x.sort(0, 10, 0, 9, NONE, 0);
-        return x;
-    }
-
-    /** Rivals at place 0, and two more at place 9 where twenty people are; nobody goes from one end to the other. */
-    private static ShopsAsOne twoEnds() {
-        ShopsAsOne x = new ShopsAsOne();
-        for (int i = 0; i < 4; i++) {
-            x.owner(0, 0);
-        }
-        x.shop(0, 0, 0, 5);
-        x.shop(1, 0, 0, 5);
-        x.shop(2, 9, 0, 5);
-        x.shop(3, 9, 0, 5);
-        x.sort(0, 10, 5, 9, NONE, 0);
-        x.sort(9, 20, 5, 9, NONE, 0);
-        return x;
-    }
-
     private static void newObject() {
-        promise = 1;
+        promise(1);
         ShopsAsOne x = new ShopsAsOne();
         for (int what = 0; what <= 6; what++) {
             due("count " + what, x.count(what), 0);
@@ -79,7 +24,7 @@ public final class PromisesTest {
     }
 
     private static void owners() {
-        promise = 2;
+        promise(2);
         ShopsAsOne x = new ShopsAsOne();
         long none = x.digest();
         refused(x, none, "owner(-1, 0)", x.owner(-1, 0), OUTSIDE);
@@ -94,7 +39,7 @@ public final class PromisesTest {
         refused(x, six, "a seventh", x.owner(0, 0), FULL);
         refused(x, six, "a seventh of no kind", x.owner(5, 0), OUTSIDE);
         due("owners", x.count(0), 6);
-        promise = 3;
+        promise(3);
         int[][] kinds = {{0, -1, -1, -1, -1}, {1, 1, -1, -1, -1}, {2, -1, 2, -1, -1}, {3, -1, -1, 3, -1}, {4, 4, -1, -1, 4}};
         for (int owner = 0; owner < 5; owner++) {
             for (int kind = 0; kind < 5; kind++) {
@@ -109,7 +54,7 @@ public final class PromisesTest {
     }
 
     private static void shops() {
-        promise = 4;
+        promise(4);
         ShopsAsOne x = new ShopsAsOne();
         due("no owner yet", x.shop(0, 0, 0, 0), UNKNOWN);
         x.owner(0, 0);
@@ -135,7 +80,7 @@ public final class PromisesTest {
         due("shop", x.shop(1, 3, 0, 9), 5);
         long six = x.digest();
         refused(x, six, "a seventh", x.shop(2, 3, 0, 9), FULL);
-        promise = 5;
+        promise(5);
         int[] first = {0, 9, 8, 7, 1, 0};
         int[] second = {1, 0, 9, 0, 0, 0};
         for (int what = 0; what <= 5; what++) {
@@ -150,7 +95,7 @@ public final class PromisesTest {
         x.sort(9, 5, 0, 30, NONE, 0);
         due("sold", x.about(0, 5), 12);
         due("sold by another", x.about(2, 5), 0);
-        promise = 6;
+        promise(6);
         due("price", x.price(0, 9), 7);
         due("price", x.about(0, 3), 9);
         due("price", x.price(0, 0), 9);
@@ -164,7 +109,7 @@ public final class PromisesTest {
     }
 
     private static void sorts() {
-        promise = 7;
+        promise(7);
         ShopsAsOne x = new ShopsAsOne();
         x.owner(0, 0);
         x.shop(0, 5, 0, 5);
@@ -194,7 +139,7 @@ public final class PromisesTest {
     }
 
     private static void whatAShopIs() {
-        promise = 8;
+        promise(8);
         ShopsAsOne x = new ShopsAsOne();
         x.owner(0, 0);
         x.owner(4, 0);
@@ -211,19 +156,19 @@ public final class PromisesTest {
         due("sort -1", x.is(-1, 0), -1001);
         due("shop 2", x.is(0, 2), -1001);
         due("shop -1", x.is(0, -1), -1001);
-        promise = 9;
+        promise(9);
         due("goes", x.goes(0), 0);
         due("goes past what is shut", x.goes(1), 0);
         due("goes", x.goes(2), 0);
         due("goes of none", x.goes(3), UNKNOWN);
         due("goes of -1", x.goes(-1), UNKNOWN);
-        promise = 10;
+        promise(10);
         due("spare", x.spare(0), 9);
         due("spare", x.spare(1), 3);
         due("more than worth", x.spare(2), 4);
         due("spare of none", x.spare(3), UNKNOWN);
         due("spare of -1", x.spare(-1), UNKNOWN);
-        promise = 9;
+        promise(9);
         x.price(0, 8);
         due("just worth it", x.goes(1), 0);
         due("no spare", x.spare(1), 0);
@@ -238,7 +183,7 @@ public final class PromisesTest {
     }
 
     private static void profits() {
-        promise = 11;
+        promise(11);
         ShopsAsOne x = new ShopsAsOne();
         x.owner(0, 9);
         x.owner(3, 3);
@@ -262,7 +207,7 @@ public final class PromisesTest {
     }
 
     private static void bests() {
-        promise = 12;
+        promise(12);
         ShopsAsOne x = new ShopsAsOne();
         x.owner(0, 0);
         x.owner(1, 0);
@@ -316,7 +261,7 @@ public final class PromisesTest {
     }
 
     private static void turns() {
-        promise = 13;
+        promise(13);
         ShopsAsOne x = new ShopsAsOne();
         x.owner(4, 99);
         x.owner(2, 0);
@@ -353,14 +298,14 @@ public final class PromisesTest {
     }
 
     private static void rests() {
-        promise = 14;
-        ShopsAsOne x = rivals();
+        promise(14);
+        ShopsAsOne x = Streets.rivals();
         due("down from 5", x.rest(), 6);
         due("at 0", x.about(0, 3), 0);
         due("at 0", x.about(1, 3), 0);
         due("rests", x.rest(), 0);
-        due("19 rounds", nineteen().rest(), 19);
-        ShopsAsOne y = twenty();
+        due("19 rounds", Streets.nineteen().rest(), 19);
+        ShopsAsOne y = Streets.twenty();
         long before = y.digest();
         refused(y, before, "20 rounds", y.rest(), STATE);
         for (int round = 0; round < 21; round++) {
@@ -371,8 +316,8 @@ public final class PromisesTest {
             due("a change in round " + round, changes > 0 ? 1 : 0, round < 20 ? 1 : 0);
         }
         due("behind them it rests", y.rest(), 0);
-        promise = 15;
-        x = rivals();
+        promise(15);
+        x = Streets.rivals();
         due("0 has its best", x.otherwise(), 1);
         x.turn(1);
         due("0 has not", x.otherwise(), 0);
@@ -383,39 +328,9 @@ public final class PromisesTest {
         due("nobody", x.otherwise(), NONE);
     }
 
-    private static ShopsAsOne nineteen() {
-        ShopsAsOne x = new ShopsAsOne();
-        int[][] owners = {{3, 5}, {0, 0}, {2, 15}, {1, 37}, {4, 91}, {1, 69}};
-        int[][] shops = {{0, 6, 5, 4}, {5, 6, 9, 0}, {3, 0, 9, 5}, {1, 7, 9, 9}, {3, 0, 0, 7}};
-        int[][] sorts = {{4, 49, 1, 24, 0, 3}, {6, 39, 2, 11, 0, 7}, {3, 7, 4, 8, 0, 8}, {4, 4, 3, 15, 2, 3}};
-        build(x, owners, shops, sorts);
-        return x;
-    }
-
-    private static ShopsAsOne twenty() {
-        ShopsAsOne x = new ShopsAsOne();
-        int[][] owners = {{3, 49}, {0, 61}, {2, 19}, {1, 16}, {3, 77}, {1, 59}};
-        int[][] shops = {{0, 6, 3, 9}, {5, 6, 9, 0}, {3, 0, 9, 7}, {1, 7, 9, 9}, {5, 0, 0, 0}};
-        int[][] sorts = {{4, 49, 1, 24, 0, 3}, {6, 25, 5, 11, 0, 7}, {3, 7, 4, 8, 0, 8}, {4, 4, 3, 24, 2, 5}};
-        build(x, owners, shops, sorts);
-        return x;
-    }
-
-    private static void build(ShopsAsOne x, int[][] owners, int[][] shops, int[][] sorts) {
-        for (int[] o : owners) {
-            x.owner(o[0], o[1]);
-        }
-        for (int[] s : shops) {
-            x.shop(s[0], s[1], s[2], s[3]);
-        }
-        for (int[] s : sorts) {
-            x.sort(s[0], s[1], s[2], s[3], s[4], s[5]);
-        }
-    }
-
     private static void gains() {
-        promise = 16;
-        ShopsAsOne x = rivals();
+        promise(16);
+        ShopsAsOne x = Streets.rivals();
         due("by best as it is: 50", x.gain(0), 0);
         due("40 by 4", x.gain(1), 40);
         due("owner 2", x.gain(2), -1000001);
@@ -439,22 +354,22 @@ public final class PromisesTest {
         x.owner(0, 0);
         x.shop(1, 0, 0, 2);
         x.sort(0, 1, 5, 3, NONE, 0);
-        promise = 16;
+        promise(16);
         due("3 less 2", x.gain(1), 1);
         due("none without shops", x.gain(0), 0);
-        promise = 15;
+        promise(15);
         due("1 is above 0", x.otherwise(), 1);
-        promise = 29;
-        test(x, "s=100&o=1");
+        promise(29);
+        Streets.test(x, "s=100&o=1");
         due("one person is all", x.bars(0, 0, 1), 1);
         x.shop(0, 9, 0, 0);
         x.sort(9, 1, 5, 0, NONE, 0);
-        test(x, "s=100&o=1&r=5000");
+        Streets.test(x, "s=100&o=1&r=5000");
         due("one person each: one seller", x.bars(1, 0, 1), 1);
     }
 
     private static void markets() {
-        promise = 17;
+        promise(17);
         ShopsAsOne x = new ShopsAsOne();
         x.owner(2, 0);
         x.owner(2, 0);
@@ -506,7 +421,7 @@ public final class PromisesTest {
     }
 
     private static void shutShops() {
-        promise = 18;
+        promise(18);
         ShopsAsOne x = new ShopsAsOne();
         x.owner(2, 0);
         x.shop(0, 0, 0, 1);
@@ -524,7 +439,7 @@ public final class PromisesTest {
         due("sort -1", x.instead(-1, 0), UNKNOWN);
         due("shop 3", x.instead(0, 3), UNKNOWN);
         due("shop -1", x.instead(0, -1), UNKNOWN);
-        promise = 19;
+        promise(19);
         due("both sorts that would", x.from(0, 1), 13);
         due("nobody", x.from(0, 2), 0);
         due("nobody there", x.from(1, 0), 0);
@@ -536,8 +451,8 @@ public final class PromisesTest {
     }
 
     private static void merges() {
-        promise = 20;
-        ShopsAsOne x = rivals();
+        promise(20);
+        ShopsAsOne x = Streets.rivals();
         long before = x.digest();
         refused(x, before, "the same", x.merge(0, 0), UNKNOWN);
         refused(x, before, "owner 2", x.merge(0, 2), UNKNOWN);
@@ -560,8 +475,8 @@ public final class PromisesTest {
     }
 
     private static void harms() {
-        promise = 21;
-        ShopsAsOne x = rivals();
+        promise(21);
+        ShopsAsOne x = Streets.rivals();
         x.owner(0, 0);
         x.sort(0, 3, 0, 0, NONE, 0);
         long before = x.digest();
@@ -574,7 +489,7 @@ public final class PromisesTest {
         due("owner -1", x.dearer(-1, 0, 0), -1001);
         due("sort 2", x.dearer(0, 1, 2), -1001);
         due("sort -1", x.dearer(0, 1, -1), -1001);
-        promise = 22;
+        promise(22);
         due("harm", x.harm(0, 1, 0), 90);
         due("sorts", x.harm(0, 1, 1), 1);
         due("rounds", x.harm(0, 1, 2), 1);
@@ -585,7 +500,7 @@ public final class PromisesTest {
         due("owner 3", x.harm(3, 1, 0), UNKNOWN);
         due("what 3", x.harm(0, 1, 3), OUTSIDE);
         due("what -1", x.harm(0, 1, -1), OUTSIDE);
-        promise = 23;
+        promise(23);
         due("one of two is enough", x.soldOff(0, 1, 2, 0), 1);
         due("8 is not 9", x.soldOff(0, 1, 2, 8), 1);
         due("none has to be sold", x.soldOff(0, 1, 2, 9), 0);
@@ -596,7 +511,7 @@ public final class PromisesTest {
         due("t 10", x.soldOff(0, 1, 2, 10), OUTSIDE);
         due("t -1", x.soldOff(0, 1, 2, -1), OUTSIDE);
         due("nothing is changed", x.digest(), before);
-        ShopsAsOne y = twoEnds();
+        ShopsAsOne y = Streets.twoEnds();
         due("one end to who has one of the other", y.soldOff(0, 1, 2, 0), 1);
         y.shop(2, 9, 0, 9);
         y.shop(2, 9, 0, 9);
@@ -605,37 +520,37 @@ public final class PromisesTest {
         for (int i = 0; i < 3; i++) {
             x.shop(2, 9, 0, 9);
         }
-        promise = 21;
+        promise(21);
         due("four", x.dearer(2, 0, 0), -1002);
-        promise = 22;
+        promise(22);
         due("four", x.harm(2, 0, 0), STATE);
         due("four, outside", x.harm(2, 0, 3), OUTSIDE);
-        promise = 23;
+        promise(23);
         due("four", x.soldOff(2, 0, 1, 0), STATE);
         due("four, outside", x.soldOff(2, 0, 1, 10), OUTSIDE);
     }
 
     private static void restless() {
-        ShopsAsOne x = twenty();
-        promise = 21;
+        ShopsAsOne x = Streets.twenty();
+        promise(21);
         due("does not rest", x.dearer(0, 4, 0), -1002);
-        promise = 22;
+        promise(22);
         due("does not rest", x.harm(0, 4, 0), NONE);
         due("does not rest", x.harm(0, 4, 2), NONE);
-        promise = 23;
+        promise(23);
         due("does not rest before", x.soldOff(0, 4, 1, 9), NONE);
-        promise = 24;
+        promise(24);
         due("does not rest before", x.twice(0, 4, 1, 2, 0), NONE);
-        promise = 30;
-        test(x, "s<0");
+        promise(30);
+        Streets.test(x, "s<0");
         due("does not rest before", x.wrong(0, 0), 0);
-        test(x, "!s<0");
+        Streets.test(x, "!s<0");
         due("does not rest before", x.wrong(1, 1), 0);
     }
 
     private static void twice() {
-        promise = 24;
-        ShopsAsOne x = twoEnds();
+        promise(24);
+        ShopsAsOne x = Streets.twoEnds();
         long before = x.digest();
         due("the first", x.twice(0, 1, 2, 3, 0), 90);
         due("the second", x.twice(0, 1, 2, 3, 1), 180);
@@ -659,7 +574,7 @@ public final class PromisesTest {
 
     /** Something of the four that twice() looks at does not rest: then nothing of it is told. */
     private static void twiceWithoutRest() {
-        promise = 24;
+        promise(24);
         int[][][] first = {{{0, 0}, {2, 0}, {2, 0}, {0, 0}}, {{3, 7, 2, 1}, {1, 5, 1, 0}},
             {{0, 7, 2, 16, 0, 3}, {6, 8, 2, 4, 1, 5}}};
         int[][][] second = {{{2, 0}, {1, 0}, {3, 1}, {2, 0}}, {{3, 9, 0, 4}, {1, 8, 0, 7}},
@@ -672,8 +587,7 @@ public final class PromisesTest {
     }
 
     private static void withoutRest(String which, int[][][] street, boolean first, boolean second, boolean both) {
-        ShopsAsOne x = new ShopsAsOne();
-        build(x, street[0], street[1], street[2]);
+        ShopsAsOne x = Streets.of(street[0], street[1], street[2]);
         due("the first alone", x.harm(0, 1, 0) == NONE ? 1 : 0, first ? 1 : 0);
         due("the second alone", x.harm(2, 3, 0) == NONE ? 1 : 0, second ? 1 : 0);
         for (int what = 0; what <= 2; what++) {
@@ -685,10 +599,10 @@ public final class PromisesTest {
     }
 
     private static void letters() {
-        promise = 25;
+        promise(25);
         ShopsAsOne x = new ShopsAsOne();
         due("none", x.letters(0), 0);
-        due("lowest byte first", x.letters(packed("s<5")), 3);
+        due("lowest byte first", x.letters(Streets.packed("s<5")), 3);
         due("it is one", x.fault(), 3);
         long three = x.digest();
         refused(x, three, "127", x.letters(127), OUTSIDE);
@@ -706,14 +620,14 @@ public final class PromisesTest {
         due("50", x.letters(0x2121212121L), 50);
         due("none more", x.letters(0), 50);
         due("one more", x.letters(33), FULL);
-        promise = 26;
+        promise(26);
         due("blank", x.blank(), 50);
         due("blank", x.blank(), 0);
         due("none", x.count(4), 0);
     }
 
     private static void faults() {
-        promise = 27;
+        promise(27);
         String[] texts = {"", "s<1", "s", "s<", "s<1234", "s<12345", "q<1", "s<1|", "s<1&", "s<1|&", "(s<1)", "(s<1))",
             "((", "()", "!", "!!!o>2", "!|", "s<1!", "s<1(", "(s<1)s", "(s<1)1", "(s<1)|d=99", "s=1o", "s-1", "S<1",
             "r>100&(s>40|o<4)&!d>3", " s<1", "s< 1", "s<1 ", "s<1|)", "(s<1|o=2)&!(d<3)", ")", "1", "<", "((s<1)&o=1)",
@@ -723,63 +637,45 @@ public final class PromisesTest {
         String good = " s<1 s<1234 (s<1) !!!o>2 (s<1)|d=99 r>100&(s>40|o<4)&!d>3 (s<1|o=2)&!(d<3) ((s<1)&o=1) (!(s<1)) ";
         for (int i = 0; i < texts.length; i++) {
             ShopsAsOne x = new ShopsAsOne();
-            write(x, texts[i]);
-            promise = 27;
+            Streets.write(x, texts[i]);
+            promise(27);
             due("fault of " + texts[i], x.fault(), faults[i]);
-            promise = 28;
+            promise(28);
             boolean isOne = !texts[i].isEmpty() && texts[i].indexOf(' ') < 0 && good.contains(" " + texts[i] + " ");
             due("test of " + texts[i], x.test(), isOne ? 0 : STATE);
             due("letters behind it", x.count(4), isOne ? 0 : texts[i].length());
             due("tests", x.count(3), isOne ? 1 : 0);
         }
-        promise = 28;
+        promise(28);
         ShopsAsOne x = new ShopsAsOne();
         for (int i = 0; i < 4; i++) {
-            due("test", test(x, "s<" + i), i);
+            due("test", Streets.test(x, "s<" + i), i);
         }
-        write(x, "s<");
+        Streets.write(x, "s<");
         long four = x.digest();
         refused(x, four, "none, and full", x.test(), STATE);
-        write(x, "5");
+        Streets.write(x, "5");
         long five = x.digest();
         refused(x, five, "full", x.test(), FULL);
         due("it stays on the page", x.count(4), 3);
         ShopsAsOne y = new ShopsAsOne();
-        due("deep", test(y, "(".repeat(23) + "s<9" + ")".repeat(23)), 0);
-        due("often turned", test(y, "!".repeat(47) + "s<9"), 1);
+        due("deep", Streets.test(y, "(".repeat(23) + "s<9" + ")".repeat(23)), 0);
+        due("often turned", Streets.test(y, "!".repeat(47) + "s<9"), 1);
         y.owner(0, 0);
         y.owner(0, 0);
         due("deep holds", y.bars(0, 0, 1), 1);
         due("turned 47 times", y.bars(1, 0, 1), 0);
     }
 
-    /** A sells 30, b 20, c 50 of 100; a at 1, b at 3 and 8, c at 9. */
-    private static ShopsAsOne sellers() {
-        ShopsAsOne x = new ShopsAsOne();
-        x.owner(2, 0);
-        x.owner(2, 0);
-        x.owner(2, 0);
-        x.owner(4, 0);
-        x.shop(0, 1, 0, 1);
-        x.shop(1, 3, 0, 1);
-        x.shop(1, 8, 0, 9);
-        x.shop(2, 9, 0, 1);
-        x.shop(3, 1, 0, 1);
-        x.sort(1, 30, 5, 1, NONE, 0);
-        x.sort(3, 20, 5, 1, NONE, 0);
-        x.sort(9, 50, 5, 1, NONE, 0);
-        return x;
-    }
-
     private static void bars(String text, int a, int b, int want) {
-        ShopsAsOne x = sellers();
-        test(x, text);
+        ShopsAsOne x = Streets.sellers();
+        Streets.test(x, text);
         due(text + " of " + a + ", " + b, x.bars(0, a, b), want);
         due(text + " of " + b + ", " + a, x.bars(0, b, a), want);
     }
 
     private static void bars() {
-        promise = 29;
+        promise(29);
         bars("s=50", 0, 1, 1);
         bars("s=80", 0, 2, 1);
         bars("s<50", 0, 1, 0);
@@ -808,8 +704,8 @@ public final class PromisesTest {
         bars("!!s=50", 0, 1, 1);
         bars("!(s=1|d=1)&!(o=9&o=9)", 0, 1, 1);
         bars("o=9&(s=50|d=2)|d=1", 0, 1, 0);
-        ShopsAsOne x = sellers();
-        test(x, "s=0&r=0&o=0");
+        ShopsAsOne x = Streets.sellers();
+        Streets.test(x, "s=0&r=0&o=0");
         due("test 1", x.bars(1, 0, 1), UNKNOWN);
         due("test -1", x.bars(-1, 0, 1), UNKNOWN);
         due("owner 4", x.bars(0, 0, 4), UNKNOWN);
@@ -820,23 +716,23 @@ public final class PromisesTest {
         x.price(1, 9);
         x.price(3, 9);
         due("nothing is sold", x.bars(0, 0, 1), 1);
-        ShopsAsOne y = sellers();
+        ShopsAsOne y = Streets.sellers();
         y.sort(1, 1, 5, 1, NONE, 0);
         y.sort(1, 1, 5, 1, NONE, 0);
-        test(y, "s=50&r=1140");
+        Streets.test(y, "s=50&r=1140");
         due("32 and 20 of 102: 50, 31, 19, rounded down: 1178", y.bars(0, 0, 1), 0);
-        test(y, "s=50&r=1178");
+        Streets.test(y, "s=50&r=1178");
         due("32 and 20 of 102: 50, 31, 19, rounded down", y.bars(1, 0, 1), 1);
     }
 
     private static void wrongs() {
-        promise = 30;
-        ShopsAsOne x = rivals();
+        promise(30);
+        ShopsAsOne x = Streets.rivals();
         x.owner(0, 0);
         due("test 0", x.wrong(0, 0), UNKNOWN);
-        test(x, "s<0");
-        test(x, "!s<0");
-        test(x, "s=100&d=0");
+        Streets.test(x, "s<0");
+        Streets.test(x, "!s<0");
+        Streets.test(x, "s=100&d=0");
         due("test 3", x.wrong(3, 2), UNKNOWN);
         due("test -1", x.wrong(-1, 0), UNKNOWN);
         due("what 2", x.wrong(0, 2), OUTSIDE);
@@ -855,24 +751,24 @@ public final class PromisesTest {
         refused(x, before, "six times", x.wrong(0, 0), STATE);
         refused(x, before, "six times, outside", x.wrong(0, 2), OUTSIDE);
         refused(x, before, "six times, unknown", x.wrong(3, 0), UNKNOWN);
-        ShopsAsOne y = twoEnds();
+        ShopsAsOne y = Streets.twoEnds();
         y.shop(0, 0, 0, 9);
         y.shop(0, 0, 0, 9);
-        test(y, "s<0");
+        Streets.test(y, "s<0");
         due("0, 1 are four", y.wrong(0, 0), 1);
-        test(y, "!s<0");
+        Streets.test(y, "!s<0");
         due("so are 0, 2 and 0, 3", y.wrong(1, 1), 2);
     }
 
     private static void images() {
-        promise = 31;
+        promise(31);
         ShopsAsOne x = new ShopsAsOne();
         due("image of nothing", x.image(), 0);
         due("of it", x.restore(), 0);
         x.owner(0, 0);
         x.owner(4, 0);
         x.shop(0, 0, 0, 5);
-        promise = 32;
+        promise(32);
         due("a shop came", x.restore(), STATE);
         x.shop(1, 9, 0, 5);
         x.sort(9, 10, 5, 4, NONE, 0);
@@ -907,10 +803,10 @@ public final class PromisesTest {
     }
 
     private static void counts() {
-        promise = 33;
-        ShopsAsOne x = sellers();
-        test(x, "s<5");
-        write(x, "abcd");
+        promise(33);
+        ShopsAsOne x = Streets.sellers();
+        Streets.test(x, "s<5");
+        Streets.write(x, "abcd");
         x.wrong(0, 0);
         x.wrong(0, 0);
         int[] due = {4, 5, 3, 1, 4, 100, 2};
@@ -919,7 +815,7 @@ public final class PromisesTest {
         }
         due("count 7", x.count(7), OUTSIDE);
         due("count -1", x.count(-1), OUTSIDE);
-        promise = 34;
+        promise(34);
         long[] numbers = {
             2, 0, 30, 2, 0, 20, 2, 0, 50, 4, 0, 0,
             0, 1, 0, 1, 1, 30, 1, 3, 0, 1, 1, 20, 1, 8, 0, 9, 1, 0, 2, 9, 0, 1, 1, 50, 3, 1, 0, 1, 0, 0,
@@ -928,9 +824,9 @@ public final class PromisesTest {
             'a', 'b', 'c', 'd',
             4, 5, 3, 1, 4, 100, 2};
         due("digest", x.digest(), mixed(numbers));
-        ShopsAsOne y = sellers();
-        test(y, "s=50");
-        test(y, "o=2");
+        ShopsAsOne y = Streets.sellers();
+        Streets.test(y, "s=50");
+        Streets.test(y, "o=2");
         long[] head = java.util.Arrays.copyOf(numbers, 66);
         long[] bars = {1, 0, 0, 0, 0, 1, 1, 1, 0, 1, 0, 0, 4, 5, 3, 2, 0, 100, 0};
         long[] all = java.util.Arrays.copyOf(head, 66 + bars.length);
@@ -971,9 +867,6 @@ public final class PromisesTest {
         wrongs();
         images();
         counts();
-        System.out.println(wrong == 0 ? "all promises hold" : wrong + " answers are not as due");
-        if (wrong != 0) {
-            System.exit(1);
-        }
+        end();
     }
 }
