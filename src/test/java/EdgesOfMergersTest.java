@@ -68,15 +68,6 @@ public final class EdgesOfMergersTest extends Edges {
         due("the last two", x.merge(3, 2), 0);
     }
 
-    /** What costs 1 more as one, to so many. */
-    private static ShopsAsOne oneDearer(int many) {
-        ShopsAsOne x = Streets.owners(0, 0);
-        x.shop(1, 0, 1, 5);
-        x.shop(0, 0, 0, 6);
-        x.sort(2, many, 0, 1, NONE, 0);
-        return x;
-    }
-
     /**
      * A TOLD without shops, and a ONE whose prices as they are differ from its best: 9 for 5 at place 0 and 2 for 5 at
      * place 9. Behind their merger these prices stay.
@@ -94,7 +85,7 @@ public final class EdgesOfMergersTest extends Edges {
     private static void spareBeforeLessBehind() {
         edge(21, "SPARE BEFORE less SPARE BEHIND; what rests from PRICES as they are");
         due("from 0 to 9, though it is 5 now", Streets.rivals().dearer(0, 1, 0), 9);
-        due("1", oneDearer(7).dearer(0, 1, 0), 1);
+        due("1", Streets.oneDearer(7).dearer(0, 1, 0), 1);
         ShopsAsOne x = dearerAndCheaper();
         due("5 or 9 is the same to whom it is worth 5", x.dearer(0, 1, 0), 0);
         due("9 for 5", x.dearer(0, 1, 1), 4);
@@ -165,9 +156,9 @@ public final class EdgesOfMergersTest extends Edges {
         due("just sort 1", x.harm(0, 1, 1), 2);
         due("no harm", x.harm(1, 0, 0), 0);
         due("no sorts", x.harm(1, 0, 1), 0);
-        due("50 times 1", oneDearer(50).harm(0, 1, 0), 50);
-        due("1 times 1", oneDearer(1).harm(0, 1, 0), 1);
-        due("for it", oneDearer(1).harm(0, 1, 1), 1);
+        due("50 times 1", Streets.oneDearer(50).harm(0, 1, 0), 50);
+        due("1 times 1", Streets.oneDearer(1).harm(0, 1, 0), 1);
+        due("for it", Streets.oneDearer(1).harm(0, 1, 1), 1);
         ShopsAsOne y = Streets.rivals();
         for (int i = 1; i < 8; i++) {
             due("not for who do without", y.harm(0, 1, 1), 1);
@@ -254,6 +245,16 @@ public final class EdgesOfMergersTest extends Edges {
             x.owner(0, 0);
             due("9, t " + t, x.soldOff(0, 1, 2, t), t < 9 ? 1 : 0);
         }
+        ShopsAsOne eight = Streets.owners(0, 0, 0);
+        eight.shop(0, 9, 0, 5);
+        eight.shop(1, 9, 0, 5);
+        for (int i = 0; i < 7; i++) {
+            Streets.stay(eight, 0, 50, 30);
+        }
+        due("seven that do without", eight.soldOff(0, 1, 2, 0), 0);
+        Streets.stay(eight, 9, 1, 9);
+        due("9 for the last of eight, t 8", eight.soldOff(0, 1, 2, 8), 1);
+        due("9 for the last of eight, t 9", eight.soldOff(0, 1, 2, 9), 0);
         ShopsAsOne y = toSell(0, 9);
         for (int t : beside(0, 9)) {
             refused(y, "t " + t, z -> z.soldOff(0, 1, 2, t), OUTSIDE);

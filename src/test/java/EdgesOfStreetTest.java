@@ -311,6 +311,19 @@ public final class EdgesOfStreetTest extends Edges {
         due("one place away", x.is(1, 2), 6);
     }
 
+    private static void shopsBehindAllSorts() {
+        edge(8, "SORTS of people (8 at most), SHOPS (6 at most)");
+        ShopsAsOne x = Streets.owners(0, 0);
+        for (int i = 0; i < 8; i++) {
+            x.sort(i, 1, 1, 9, NONE, 9);
+        }
+        for (int shop = 0; shop < 6; shop++) {
+            due("behind eight sorts", x.shop(shop % 2, 9 - shop, 0, shop), shop);
+            due("to the first", x.is(0, shop), 9);
+            due("to the last", x.is(7, shop), shop + Math.abs(2 - shop));
+        }
+    }
+
     private static void whatNothingIs() {
         edge(8, "-1001: UNKNOWN.");
         ShopsAsOne x = Streets.owners(0);
@@ -495,6 +508,7 @@ public final class EdgesOfStreetTest extends Edges {
         whatSortsLike();
         eightSorts();
         whatShopsAre();
+        shopsBehindAllSorts();
         whatNothingIs();
         nowhereToGo();
         likeOnes();

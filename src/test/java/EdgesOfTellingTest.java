@@ -265,6 +265,27 @@ public final class EdgesOfTellingTest extends Edges {
         }
     }
 
+    private static void lastOfAllCalls() {
+        edge(34, "An object is used for at most 512 calls");
+        ShopsAsOne x = Streets.rivals();
+        long before = x.digest();
+        x.image();
+        int calls = 7;
+        for (; calls + 7 < 512; calls += 7) {
+            due("rests", x.rest(), 6);
+            x.price(0, calls % 10);
+            x.merge(calls % 2, 1 - calls % 2);
+            due("letters", x.letters(0x7e01L), 2);
+            due("harm", x.harm(0, 1, 0), 0);
+            due("blank", x.blank(), 2);
+            due("restore", x.restore(), 2);
+        }
+        for (; calls < 511; calls++) {
+            x.count(0);
+        }
+        due("the 512th", x.digest(), before);
+    }
+
     public static void main(String[] args) {
         howManyShops();
         theLatest();
@@ -277,6 +298,7 @@ public final class EdgesOfTellingTest extends Edges {
         justBelowTheWrap();
         belowNothing();
         eachTwoOwners();
+        lastOfAllCalls();
         end();
     }
 }

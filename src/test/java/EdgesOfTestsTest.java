@@ -345,19 +345,10 @@ public final class EdgesOfTestsTest extends Edges {
         dueWrong(Streets.owners(0, 0), ALL, 0, 1);
         dueWrong(Streets.owners(0, 1, 2, 3, 4, 0), ALL, 0, 15);
         dueWrong(Streets.owners(0, 1, 2, 3, 4, 0), NOBODY, 0, 0);
-        ShopsAsOne z = oneSold(1, 1);
+        ShopsAsOne z = Streets.oneDearer(1);
         due("1 dearer to one is harm", z.harm(0, 1, 0), 1);
         dueWrong(z, NOBODY, 1, 0);
         dueWrong(z, ALL, 0, 0);
-    }
-
-    /** A shop of cost 1 and one of no cost, to whose people it is worth that. */
-    private static ShopsAsOne oneSold(int many, int worth) {
-        ShopsAsOne x = Streets.owners(0, 0);
-        x.shop(1, 0, 1, 5);
-        x.shop(0, 0, 0, 6);
-        x.sort(0, many, 0, worth, NONE, 0);
-        return x;
     }
 
     private static void lesserFirst() {

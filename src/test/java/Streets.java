@@ -42,6 +42,15 @@ final class Streets {
         return x;
     }
 
+    /** Two shops, one of cost 1: so many people pay 0 for what is worth 1 to them, and 1 if the owners are one. */
+    static ShopsAsOne oneDearer(int many) {
+        ShopsAsOne x = owners(0, 0);
+        x.shop(1, 0, 1, 5);
+        x.shop(0, 0, 0, 6);
+        x.sort(2, many, 0, 1, NONE, 0);
+        return x;
+    }
+
     /** Rivals at place 0, and two more at place 9 where twenty people are; nobody goes from one end to the other. */
     static ShopsAsOne twoEnds() {
         ShopsAsOne x = owners(0, 0, 0, 0);
