@@ -267,6 +267,12 @@ public final class EdgesOfMergersTest extends Edges {
         x.owner(0, 0);
         due("either of two", x.soldOff(0, 1, 2, 0), 1);
         due("either of two, from the other", x.soldOff(1, 0, 2, 0), 1);
+        ShopsAsOne last = Streets.owners(0, 0, 0);
+        last.shop(2, 0, 0, 5);
+        last.shop(1, 0, 0, 5);
+        Streets.stay(last, 0, 10, 9);
+        due("either of two, of the last owners", last.soldOff(1, 2, 0, 0), 1);
+        due("either of two, of the last owners", last.soldOff(2, 1, 0, 0), 1);
         int[][] owners = {{0, 0}, {0, 0}, {2, 0}};
         int[][] sorts = {{1, 2, 0, 7, NONE, 0}, {0, 1, 1, 6, NONE, 0}};
         ShopsAsOne y = Streets.of(owners, new int[][] {{0, 0, 0, 4}, {0, 3, 0, 3}, {1, 0, 0, 1}}, sorts);

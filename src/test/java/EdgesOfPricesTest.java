@@ -380,6 +380,25 @@ public final class EdgesOfPricesTest extends Edges {
         }
     }
 
+    private static void marketsOfComers() {
+        edge(17, "STATE: it is shut; all sets of open SHOPS");
+        ShopsAsOne x = lone(4, 0, 3, 10, 5);
+        x.shop(0, 9, 0, 3);
+        refused(x, "OUT", y -> y.market(0, 1, true), STATE);
+        x.turn(0);
+        due("IN, least", x.market(0, 4, true), NONE);
+        x.price(0, 4);
+        due("IN, least", x.market(0, 1, true), 1);
+        due("IN", x.market(0, 1, false), 1);
+        due("its other one", x.market(1, 5, true), 2);
+        ShopsAsOne z = Streets.owners(4, 2);
+        z.shop(0, 0, 0, 0);
+        z.shop(1, 0, 0, 4);
+        Streets.stay(z, 0, 10, 5);
+        due("beside a shut one", z.market(1, 1, false), 2);
+        due("beside a shut one, least", z.market(1, 1, true), 2);
+    }
+
     private static void nearestFirst() {
         edge(17, "the nearest other open SHOP more (by PLACES, of like ones the least number)");
         int[][] told = {{2, 0}, {2, 0}};
@@ -463,6 +482,14 @@ public final class EdgesOfPricesTest extends Edges {
         due("all", x.from(0, 1), 400);
         x.price(1, 9);
         due("to the third", x.from(0, 2), 350);
+        x.price(0, 9);
+        due("from the third", x.from(2, 0), 350);
+        due("to the last", x.from(2, 3), 0);
+        x.price(3, 8);
+        due("to the last", x.from(2, 3), 350);
+        x.price(2, 9);
+        due("from the last", x.from(3, 0), 350);
+        due("no more from the third", x.from(2, 3), 0);
     }
 
     private static void fromRefused() {
@@ -498,6 +525,7 @@ public final class EdgesOfPricesTest extends Edges {
         marketsByK();
         noLessProfit();
         marketsOfAll();
+        marketsOfComers();
         nearestFirst();
         fewestThenLeastBits();
         costsAsTold();
